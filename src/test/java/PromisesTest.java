@@ -1,27 +1,5 @@
-import java.util.NoSuchElementException;
-import java.util.function.Supplier;
-
 /** One part for each promise of the document: ordinary inputs, its edges, wrong inputs. */
-public final class PromisesTest {
-    private static final int SET = 0;
-    private static final int COPY = 1;
-    private static final int ADD = 2;
-    private static final int TAKE = 3;
-    private static final int TIMES = 4;
-    private static final int OVER = 5;
-    private static final int IN = 6;
-    private static final int OUT = 7;
-    private static final int RETURN = 0;
-    private static final int JUMP = 1;
-    private static final int BRANCH = 2;
-    private static final int NONE = CodePruner.NONE;
-    private static final Class<?> STATE = IllegalStateException.class;
-    private static final Class<?> ARGUMENT = IllegalArgumentException.class;
-    private static final Class<?> ELEMENT = NoSuchElementException.class;
-    private static final Class<?> UNSUPPORTED = UnsupportedOperationException.class;
-
-    private static int wrong = 0;
-
+public final class PromisesTest extends Checks {
     public static void main(String[] args) {
         newObject();
         block();
@@ -48,40 +26,7 @@ public final class PromisesTest {
         ran();
         out();
         readme();
-        System.out.println(wrong == 0 ? "all answers are as due" : wrong + " are not as due");
-        if (wrong != 0) {
-            System.exit(1);
-        }
-    }
-
-    private static void due(String what, Object got, Object want) {
-        if (!got.equals(want)) {
-            wrong++;
-            System.out.println(what + " answered " + got + ", due is " + want);
-        }
-    }
-
-    private static void dueThrow(String what, Class<?> want, Supplier<Object> call) {
-        Object got;
-        try {
-            got = call.get();
-        } catch (RuntimeException e) {
-            got = e.getClass();
-        }
-        due(what, got, want);
-    }
-
-    private static CodePruner withBlocks(int n) {
-        CodePruner p = new CodePruner();
-        for (int i = 0; i < n; i++) {
-            due("block()", p.block(), i);
-        }
-        return p;
-    }
-
-    private static Object endOf(CodePruner p, int x, int kind, int a, int b, int c) {
-        p.end(x, kind, a, b, c);
-        return "an end";
+        finish();
     }
 
     private static void newObject() {
@@ -189,13 +134,13 @@ public final class PromisesTest {
         for (int r : new int[] {-1, 8, Integer.MIN_VALUE, Integer.MAX_VALUE}) {
             dueThrow("return of " + r, ARGUMENT, () -> endOf(p, 0, RETURN, r, 0, 0));
             dueThrow("branch on " + r, ARGUMENT, () -> endOf(p, 0, BRANCH, r, 0, 0));
-            due("jump with a " + r, endOf(p, 0, JUMP, r, 1, r), "an end");
+            due("jump with a " + r, endOf(p, 0, JUMP, r, 1, r), DONE);
         }
         for (int x : new int[] {-1, 12, Integer.MIN_VALUE, Integer.MAX_VALUE}) {
             dueThrow("jump to " + x, ARGUMENT, () -> endOf(p, 0, JUMP, 0, x, 0));
             dueThrow("branch to b " + x, ARGUMENT, () -> endOf(p, 0, BRANCH, 0, x, 0));
             dueThrow("branch to c " + x, ARGUMENT, () -> endOf(p, 0, BRANCH, 0, 0, x));
-            due("return with b, c " + x, endOf(p, 1, RETURN, 7, x, x), "an end");
+            due("return with b, c " + x, endOf(p, 1, RETURN, 7, x, x), DONE);
         }
         p.prune();
         p.run(false, 0, 9);
@@ -203,9 +148,9 @@ public final class PromisesTest {
         dueThrow("wrong end", ARGUMENT, () -> endOf(p, 0, 3, 0, 0, 0));
         due("a wrong end changes nothing: ends", p.ends(0, 1), 1);
         due("a wrong end changes nothing: ran(0)", p.ran(0), 2);
-        due("a jump to where no block is", endOf(p, 0, JUMP, 0, 11, 0), "an end");
+        due("a jump to where no block is", endOf(p, 0, JUMP, 0, 11, 0), DONE);
         dueThrow("a jump to where no block is: run", UNSUPPORTED, () -> p.run(false, 0, 9));
-        due("an end instead", endOf(p, 0, RETURN, 0, 0, 0), "an end");
+        due("an end instead", endOf(p, 0, RETURN, 0, 0, 0), DONE);
         due("an end instead: run", p.run(false, 0, 1), 0);
     }
 
@@ -411,13 +356,6 @@ public final class PromisesTest {
         dueThrow("needed(-1)", ELEMENT, () -> p.needed(-1));
         dueThrow("needed(9)", ELEMENT, () -> p.needed(9));
         dueThrow("needed(64)", ELEMENT, () -> p.needed(64));
-    }
-
-    private static void dueNeeded(String what, CodePruner p, String want) {
-        p.prune();
-        for (int k = 0; k < want.length(); k++) {
-            due(what + ": needed(" + k + ")", p.needed(k), want.charAt(k) == '1');
-        }
     }
 
     private static void neededAlongLoops() {

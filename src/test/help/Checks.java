@@ -74,16 +74,23 @@ abstract class Checks {
 
     /** A text for each block, like "IN 1, OUT 1, BRANCH 1 0 2"; instructions are added in order. */
     static CodePruner program(String... blocks) {
-        CodePruner p = withBlocks(blocks.length);
+        return programIn(new CodePruner(), blocks);
+    }
+
+    /** The same in an object that has no blocks, but may have had some. */
+    static CodePruner programIn(CodePruner p, String... blocks) {
+        for (int x = 0; x < blocks.length; x++) {
+            due("block()", p.block(), x);
+        }
         for (int x = 0; x < blocks.length; x++) {
             for (String part : blocks[x].isEmpty() ? new String[0] : blocks[x].split(", ")) {
-                write(p, x, part.split(" "));
+                writePart(p, x, part.split(" "));
             }
         }
         return p;
     }
 
-    private static void write(CodePruner p, int x, String[] words) {
+    private static void writePart(CodePruner p, int x, String[] words) {
         int a = numberAt(words, 1);
         int b = numberAt(words, 2);
         int c = numberAt(words, 3);
@@ -242,7 +249,11 @@ abstract class Checks {
     static void dueRefused(String what, String want, Supplier<CodePruner> maker, Function<CodePruner, Object> call) {
         CodePruner asked = maker.get();
         dueThrow(what, want, () -> call.apply(asked));
-        due(what + " leaves all as it was, but for", difference(look(asked), look(maker.get())), "nothing");
+        dueAlike(what + " leaves all as it was", asked, maker.get());
+    }
+
+    static void dueAlike(String what, CodePruner got, CodePruner want) {
+        due(what + ": the difference", difference(look(got), look(want)), "nothing");
     }
 
     private static String difference(String got, String want) {

@@ -33,6 +33,7 @@ public final class EdgesOfPromisesTest extends Checks {
         endOfAFullProgram();
         clearOfNothing();
         clearOfAFullProgram();
+        nothingComesBack();
         pruneAnswersHowManyWent();
         pruneAgain();
         pruneWithoutBlocks();
@@ -419,13 +420,13 @@ public final class EdgesOfPromisesTest extends Checks {
         CodePruner p = new CodePruner();
         p.clear();
         p.clear();
-        due("cleared: like a new one", look(p), look(new CodePruner()));
+        dueAlike("cleared, like a new one", p, new CodePruner());
     }
 
     private static void clearOfAFullProgram() {
         CodePruner p = full();
         p.clear();
-        due("cleared: like a new one", look(p), look(new CodePruner()));
+        dueAlike("cleared, like a new one", p, new CodePruner());
         p.clear();
         for (int x = 0; x < 12; x++) {
             due("cleared: block", p.block(), x);
@@ -438,6 +439,38 @@ public final class EdgesOfPromisesTest extends Checks {
         }
         dueThrow("cleared: a 61st", STATE, () -> p.add(0, SET, 1, 0, 0));
         dueThrow("cleared: a 13th block", STATE, p::block);
+    }
+
+    /** What was pruned before a change is gone: it shows in nothing that is pruned afterwards. */
+    private static void nothingComesBack() {
+        String[][] programs = {
+            {""},
+            {"SET 0 1, SET 1 2, JUMP 1", "SET 2 3, RETURN 2"},
+            {"SET 1 1, SET 0 2, BRANCH 1 1 2", "SET 3 1, JUMP 2", "SET 4 1, JUMP 3", "RETURN 3"},
+            {"SET 2 1, BRANCH 2 1 1", "BRANCH 3 2 2", "BRANCH 3 3 3", "SET 4 1, OUT 4, RETURN 5"},
+            {"IN 1, BRANCH 1 1 2", "OUT 1, BRANCH 1 0 3", "OUT 2, SET 2 1, JUMP 0", "JUMP 4", ""},
+            {"OUT 1, OUT 2, OUT 3, OUT 4, SET 1 1, SET 2 1, SET 3 1, SET 4 1"},
+        };
+        for (String[] earlier : programs) {
+            for (String[] later : programs) {
+                CodePruner p = program(earlier);
+                p.add(0, SET, 0, 5, 0);
+                p.prune();
+                p.clear();
+                dueAlike("pruned after another", prunedIn(p, later), prunedIn(new CodePruner(), later));
+            }
+        }
+        CodePruner p = prunedAndRun();
+        p.end(1, RETURN, 4, 0, 0);
+        dueNeeded("a return instead of a branch", p, "0011110");
+        p.end(1, BRANCH, 3, 3, 3);
+        dueNeeded("a branch that decides nothing", p, "0010110");
+        dueEnds("a branch that decides nothing", p, "JUMP 1", "JUMP 3", "JUMP 3", "RETURN");
+    }
+
+    private static CodePruner prunedIn(CodePruner p, String[] blocks) {
+        programIn(p, blocks).prune();
+        return p;
     }
 
     /** Promise 6: "Prunes; answers how many instructions went": none, some, all 60. */

@@ -404,6 +404,9 @@ public final class EdgesOfTermsTest extends Checks {
         CodePruner ladder = program(texts(12, x -> x == 11 ? "" : "BRANCH 0 " + (x + 1) + " " + Math.min(x + 2, 11)));
         ladder.prune();
         dueNext("ladder", ladder, 11, 11, 11, 11, 11, 11, 11, 11, 11, 11, 11, NONE);
+        CodePruner first = program("JUMP 1", "", "JUMP 0", "BRANCH 0 2 0");
+        first.prune();
+        dueNext("block 0 may be one's next", first, 1, NONE, 0, 0);
         CodePruner round = program("BRANCH 0 3 0", "RETURN 0", "BRANCH 0 1 0", "BRANCH 0 2 3");
         round.prune();
         dueNext("not itself, though it comes again", round, 3, NONE, 1, 2);
@@ -477,6 +480,7 @@ public final class EdgesOfTermsTest extends Checks {
         for (int r = 0; r < 8; r++) {
             CodePruner p = program("SET 3 5, SET " + r + " 6, OUT 3, RETURN 3");
             dueNeeded("register " + r + " is set between", p, r == 3 ? "011" : "101");
+            dueNeeded("register " + r + " is put out between", program("SET 0 5, OUT " + r + ", RETURN 0"), "11");
         }
         dueNeeded("set on one of two ways",
             program("SET 1 5, BRANCH 2 1 2", "SET 1 6, JUMP 3", "JUMP 3", "RETURN 1"), "11");
@@ -571,22 +575,25 @@ public final class EdgesOfTermsTest extends Checks {
         dueNeeded("one in the other", p, "111");
         dueEnds("one in the other", p, "BRANCH 1 4", "BRANCH 2 3", "JUMP 3", "JUMP 4", "RETURN");
         for (int stride : new int[] {1, 11}) {
-            CodePruner deep = nest(stride, "OUT 0, ", "");
+            CodePruner deep = nest(stride, "SET 1 1, ", "OUT 0, ", "");
             dueNeeded("ten in each other", deep, "1".repeat(11));
             due("ten in each other: none becomes a jump", deep.count(2), 0);
-            CodePruner free = nest(stride, "", "OUT 0, ");
+            CodePruner bare = nest(stride, "", "OUT 0, ", "");
+            dueNeeded("ten bare ones in each other", bare, "1");
+            due("ten bare ones in each other: none becomes a jump", bare.count(2), 0);
+            CodePruner free = nest(stride, "SET 1 1, ", "", "OUT 0, ");
             due("ten in each other for nothing: prune", free.prune(), 10);
             due("ten in each other for nothing: all become jumps", free.count(2), 10);
         }
     }
 
-    /** Ten branches one in the other, round a block with the first text; all lead to the last. */
-    private static CodePruner nest(int stride, String inmost, String behind) {
+    /** Ten branches one in the other, each behind the text before; else all lead to the last block. */
+    private static CodePruner nest(int stride, String before, String inmost, String behind) {
         String[] blocks = new String[12];
         int last = 11 * stride % 12;
         for (int depth = 0; depth < 10; depth++) {
             int inner = (depth + 1) * stride % 12;
-            blocks[depth * stride % 12] = "SET 1 1, BRANCH 1 " + inner + " " + last;
+            blocks[depth * stride % 12] = before + "BRANCH 1 " + inner + " " + last;
         }
         blocks[10 * stride % 12] = inmost + "JUMP " + last;
         blocks[last] = behind + "RETURN 0";

@@ -42,6 +42,7 @@ public final class EdgesOfTermsTest extends Checks {
         neededBranches();
         neededBranchesOfBranches();
         neededLongChains();
+        neededOneByOne();
         jumpsAreNotCounted();
         pruneToTheFirstWithSomethingNeeded();
         pruneAlongElevenBlocks();
@@ -611,6 +612,33 @@ public final class EdgesOfTermsTest extends Checks {
         dueNeeded("a value that moves one register a round",
             program("OUT 0, COPY 0 1, COPY 1 2, COPY 2 3, COPY 3 4, COPY 4 5, COPY 5 6, COPY 6 7, SET 7 5, BRANCH 0 0 1", ""),
             "1".repeat(9));
+    }
+
+    /**
+     * A value goes round eleven blocks in one register, then in the one below it, and so on: each
+     * instruction is needed for the one added before it alone, so that they are found one by one.
+     */
+    private static void neededOneByOne() {
+        CodePruner p = chainRoundBlocks();
+        dueNeeded("sixty one by one", p, "1".repeat(60));
+        due("sixty one by one: the branch stays", p.ends(10, 0), BRANCH);
+        CodePruner broken = chainRoundBlocks();
+        broken.end(11, RETURN, 6, 0, 0);
+        dueNeeded("none of the sixty", broken, "0".repeat(60));
+        due("none of the sixty: the branch goes", broken.count(2), 1);
+    }
+
+    private static CodePruner chainRoundBlocks() {
+        CodePruner p = withBlocks(12);
+        for (int k = 0; k < 60; k++) {
+            due("add", p.add(10 - k % 11, COPY, k / 11, (k + 1) / 11, 0), k);
+        }
+        for (int x = 0; x < 10; x++) {
+            p.end(x, JUMP, 0, x + 1, 0);
+        }
+        p.end(10, BRANCH, 7, 0, 11);
+        p.end(11, RETURN, 0, 0, 0);
+        return p;
     }
 
     /** "(Jumps are not counted.)": a block with a jump alone holds nothing that is needed. */

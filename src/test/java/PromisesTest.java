@@ -25,7 +25,6 @@ public final class PromisesTest extends Checks {
         runThrows();
         ran();
         out();
-        readme();
         finish();
     }
 
@@ -601,27 +600,5 @@ public final class PromisesTest extends Checks {
         p.run(false, 0, 2 + 3 * 2);
         due("out(1)", p.out(1), 1);
         dueThrow("out(2)", ELEMENT, () -> p.out(2));
-    }
-
-    /** The example of README.md. */
-    private static void readme() {
-        CodePruner p = withBlocks(3);
-        p.add(0, IN, 0, 0, 0);
-        p.add(0, SET, 1, 10, 0);
-        p.add(0, SET, 2, 1, 0);
-        p.end(0, JUMP, 0, 1, 0);
-        p.add(1, TAKE, 1, 1, 2);
-        p.end(1, BRANCH, 1, 1, 2);
-        p.add(2, OUT, 0, 0, 0);
-        p.end(2, RETURN, 0, 0, 0);
-        due("readme: prune", p.prune(), 3);
-        due("readme: count(2)", p.count(2), 1);
-        dueEnd(p, 1, JUMP, 2, NONE);
-        due("readme: needed(0)", p.needed(0), true);
-        due("readme: run", p.run(false, 9, 2000), 0);
-        due("readme: steps", p.ran(0), 26);
-        due("readme: pruned run", p.run(true, 9, 2000), 0);
-        due("readme: pruned steps", p.ran(0), 5);
-        due("readme: out(0)", p.out(0), 5);
     }
 }
